@@ -32,7 +32,6 @@ public final class ScansionDesk {
     private static final int MOST_FEW = 20;
     private static final int MOST_SLIPPING = 99;
 
-    private static final int LONG = 1;
     private static final int EITHER = 2;
     private static final int ELIDED = 2;
     private static final int WAYS = 3;
@@ -43,10 +42,12 @@ public final class ScansionDesk {
     private static final int LAST_DAY = 999;
     private static final int[] HIGHEST_TERMS = {LAST_DAY, 10, 9};
 
-    private static final int DID_WEIGH = 0;
-    private static final int DID_END = 1;
-    private static final int DID_MEET = 2;
-    private static final int DID_PASS = 3;
+    /** What is told of a syllable and, in the same numbers, what a change that can be undone changed. */
+    private static final int WEIGHT = 0;
+    private static final int ENDS = 1;
+    private static final int MEETS = 2;
+    private static final int FACTS = 3;
+    private static final int PASSED = 3;
 
     private static final int ORDER_DAY = 0;
     private static final int ORDER_DONE = 1;
@@ -97,7 +98,7 @@ public final class ScansionDesk {
         if (!now.hasSyllable(syllable) || what < 0 || what > 8) {
             return NONE;
         }
-        if (what < 3) {
+        if (what < FACTS) {
             return now.told(syllable, what);
         }
         scansion.lookAt(now, now.lawAt(now.force));
@@ -243,11 +244,11 @@ public final class ScansionDesk {
     }
 
     public int ends(int syllable) {
-        return settle(tryTurn(syllable, DID_END));
+        return settle(tryTurn(syllable, ENDS));
     }
 
     public int meets(int syllable) {
-        return settle(tryTurn(syllable, DID_MEET));
+        return settle(tryTurn(syllable, MEETS));
     }
 
     public int pass() {
@@ -260,9 +261,9 @@ public final class ScansionDesk {
         }
         int kind = history.latestKind();
         int syllable = history.latestSyllable();
-        if (kind == DID_WEIGH) {
-            now.setTold(syllable, State.WEIGHT, history.latestWeight());
-        } else if (kind == DID_PASS) {
+        if (kind == WEIGHT) {
+            now.setTold(syllable, WEIGHT, history.latestWeight());
+        } else if (kind == PASSED) {
             now.setTerm(DAY, now.termOf(DAY) - 1);
         } else {
             now.turn(syllable, kind);
@@ -408,7 +409,7 @@ public final class ScansionDesk {
     }
 
     public int drawn(int syllable, int what) {
-        if (!afterWeeks.hasSyllable(syllable) || what < 0 || what > 2) {
+        if (!afterWeeks.hasSyllable(syllable) || what < 0 || what >= FACTS) {
             return NONE;
         }
         return afterWeeks.told(syllable, what);
@@ -551,12 +552,12 @@ public final class ScansionDesk {
         if (!now.hasSyllable(syllable)) {
             return NO_SUCH;
         }
-        int was = now.told(syllable, State.WEIGHT);
+        int was = now.told(syllable, WEIGHT);
         if (was == weight) {
             return NOT_NOW;
         }
-        now.setTold(syllable, State.WEIGHT, weight);
-        history.add(DID_WEIGH, syllable, was);
+        now.setTold(syllable, WEIGHT, weight);
+        history.add(WEIGHT, syllable, was);
         return was;
     }
 
@@ -575,7 +576,7 @@ public final class ScansionDesk {
         }
         int told = Integer.bitCount(fittingMetres(now));
         now.setTerm(DAY, day + 1);
-        history.add(DID_PASS, 0, 0);
+        history.add(PASSED, 0, 0);
         return told;
     }
 
@@ -595,10 +596,10 @@ public final class ScansionDesk {
                 answer = tryWeigh(first, second);
                 break;
             case Tokens.END:
-                answer = tryTurn(first, DID_END);
+                answer = tryTurn(first, ENDS);
                 break;
             case Tokens.MEET:
-                answer = tryTurn(first, DID_MEET);
+                answer = tryTurn(first, MEETS);
                 break;
             default:
                 answer = tryPass();
@@ -616,7 +617,7 @@ public final class ScansionDesk {
         orderWords[ORDER_DAY] = now.termOf(DAY);
         orderWords[ORDER_COUNT] = now.size;
         for (int p = 0; p < MOST_SYLLABLES; p++) {
-            orderWords[ORDER_WEIGHTS + p] = now.hasSyllable(p) ? now.told(p, State.WEIGHT) : NONE;
+            orderWords[ORDER_WEIGHTS + p] = now.hasSyllable(p) ? now.told(p, WEIGHT) : NONE;
         }
         int taking = withScans ? fittingMetres(now) : 0;
         for (int k = 0; k < MOST_METRES; k++) {
@@ -630,18 +631,14 @@ public final class ScansionDesk {
 
     private static void changeByDraws(State paper, int syllable, int weight, int kind) {
         if (kind < 2) {
-            paper.setTold(syllable, State.WEIGHT, weight);
+            paper.setTold(syllable, WEIGHT, weight);
         } else {
-            paper.turn(syllable, kind == 2 ? DID_END : DID_MEET);
+            paper.turn(syllable, kind == 2 ? ENDS : MEETS);
         }
     }
 
     /** All that an IMAGE keeps. */
     private static final class State {
-        static final int WEIGHT = 0;
-        private static final int FACTS = 3;
-
-        /** WEIGHT, ENDS, MEETS of each syllable; DID_END and DID_MEET are the places of the latter. */
         private final int[] facts = new int[FACTS * MOST_SYLLABLES];
         private final int[] terms = {0, 1, 0};
         private final int[] heardAt = new int[MOST_HEARD];
@@ -678,12 +675,12 @@ public final class ScansionDesk {
 
         boolean addSyllable(int weight, int ends, int meets) {
             int from = FACTS * size;
-            if (!isSyllable(weight, ends, meets) || from < 0 || from + 2 >= facts.length) {
+            if (!isSyllable(weight, ends, meets) || from < 0 || from + MEETS >= facts.length) {
                 return false;
             }
-            facts[from] = weight;
-            facts[from + 1] = ends;
-            facts[from + 2] = meets;
+            facts[from + WEIGHT] = weight;
+            facts[from + ENDS] = ends;
+            facts[from + MEETS] = meets;
             size++;
             return true;
         }
@@ -841,8 +838,6 @@ public final class ScansionDesk {
     /** The TOKENS of a TEXT, how far they were read, and the FAULT. */
     private static final class Tokens {
         static final int WORD_LONG = 256;
-        static final int WORD_SHORT = 257;
-        static final int WORD_ANY = 258;
         static final int WORD_CUT = 259;
         static final int OR = 260;
         static final int TIMES = 261;
@@ -853,7 +848,7 @@ public final class ScansionDesk {
         static final int AND = 266;
         static final int NOT = 267;
         static final int FIRST_LAW_WORD = 268;
-        static final int WEIGHT = 269;
+        static final int WEIGHT_WORD = 269;
         static final int COUNT = 273;
         static final int DAY_WORD = 274;
         static final int LAST_LAW_WORD = 275;
@@ -1319,7 +1314,19 @@ public final class ScansionDesk {
             int and = NONE;
             boolean more = true;
             for (int k = 0; more && k < MOST_BYTES; k++) {
-                readPlain(tokens, depth);
+                boolean turned = skipNots(tokens);
+                if (depth < MOST_BRACKETS && tokens.skip('(')) {
+                    readTest(tokens, depth + 1);
+                    tokens.expect(')');
+                } else {
+                    readSum(tokens, depth);
+                    int op = readComparison(tokens);
+                    readSum(tokens, depth);
+                    text.write(op, 0);
+                }
+                if (turned) {
+                    text.write(Reckoner.NOT, 0);
+                }
                 text.aim(and);
                 and = NONE;
                 if (tokens.skip(Tokens.AND)) {
@@ -1332,25 +1339,24 @@ public final class ScansionDesk {
             }
         }
 
-        private void readPlain(Tokens tokens, int depth) {
+        /** Whether an odd number of "not" stands here: of an even one nothing is left. */
+        private static boolean skipNots(Tokens tokens) {
             boolean turned = false;
             for (int k = 0; k < MOST_BYTES && tokens.skip(Tokens.NOT); k++) {
                 turned = !turned;
             }
-            if (depth < MOST_BRACKETS && tokens.skip('(')) {
-                readTest(tokens, depth + 1);
-                tokens.expect(')');
-            } else {
-                readSum(tokens, depth);
-                int sign = tokens.codeAt(tokens.at);
-                int op = sign == '<' ? Reckoner.LESS : sign == '>' ? Reckoner.MORE : Reckoner.SAME;
-                tokens.expect(op == Reckoner.SAME ? '=' : sign);
-                readSum(tokens, depth);
-                text.write(op, 0);
+            return turned;
+        }
+
+        private static int readComparison(Tokens tokens) {
+            if (tokens.skip('<')) {
+                return Reckoner.LESS;
             }
-            if (turned) {
-                text.write(Reckoner.NOT, 0);
+            if (tokens.skip('>')) {
+                return Reckoner.MORE;
             }
+            tokens.expect('=');
+            return Reckoner.SAME;
         }
 
         /** SUM with the TERMs in it: a waiting "*" is written behind its PART, a waiting "+" behind its TERM. */
@@ -1428,7 +1434,7 @@ public final class ScansionDesk {
                 value = ORDER_LATEST;
             } else if (tokens.skip(Tokens.COUNT)) {
                 value = ORDER_COUNT;
-            } else if (tokens.skip(Tokens.WEIGHT)) {
+            } else if (tokens.skip(Tokens.WEIGHT_WORD)) {
                 int which = tokens.takeNumber(0, MOST_SYLLABLES - 1);
                 value = which == NONE ? NONE : ORDER_WEIGHTS + which;
             } else if (tokens.skip(Tokens.SCANS)) {
@@ -1461,7 +1467,7 @@ public final class ScansionDesk {
         static final int AND = 12;
         static final int STOP = 13;
         static final int OPS = 16;
-        static final int BROKEN = Integer.MIN_VALUE;
+        static final int BROKEN = -2000000000;
         private static final long HIGHEST = 1000000000L;
 
         private final int[] stack = new int[MOST_PARTS + 1];
@@ -1544,6 +1550,15 @@ public final class ScansionDesk {
         static final long FAR = 1L << 60;
         private static final int COST_SHIFT = 2 * MOST_SYLLABLES;
         private static final int HIGHEST_COST = 99;
+        /** The words of laws, in the order of their TOKENS. */
+        private static final int LAW_PLACE = 0;
+        private static final int LAW_WEIGHT = 1;
+        private static final int LAW_AS = 2;
+        private static final int LAW_ENDS = 3;
+        private static final int LAW_MEETS = 4;
+        private static final int LAW_COUNT = 5;
+        private static final int LAW_DAY = 6;
+        private static final int LAW_MOOD = 7;
         private static final int LAW_WORDS = 8;
 
         private final Reckoner reckoner = new Reckoner();
@@ -1564,25 +1579,25 @@ public final class ScansionDesk {
             size = line.size;
             Arrays.fill(can, 0);
             cuts = 1;
-            lawWords[5] = size;
-            lawWords[6] = line.termOf(DAY);
-            lawWords[7] = line.termOf(MOOD);
+            lawWords[LAW_COUNT] = size;
+            lawWords[LAW_DAY] = line.termOf(DAY);
+            lawWords[LAW_MOOD] = line.termOf(MOOD);
             for (int p = 0; p < size && p < MOST_SYLLABLES; p++) {
-                cuts |= line.told(p, DID_END) << p + 1;
-                lawWords[0] = p;
-                lawWords[1] = line.told(p, State.WEIGHT);
-                lawWords[3] = line.told(p, DID_END);
-                lawWords[4] = line.told(p, DID_MEET);
+                cuts |= line.told(p, ENDS) << p + 1;
+                lawWords[LAW_PLACE] = p;
+                lawWords[LAW_WEIGHT] = line.told(p, WEIGHT);
+                lawWords[LAW_ENDS] = line.told(p, ENDS);
+                lawWords[LAW_MEETS] = line.told(p, MEETS);
                 for (int v = 0; v < WAYS; v++) {
-                    lawWords[2] = v;
+                    lawWords[LAW_AS] = v;
                     judge(law, p, v);
                 }
             }
         }
 
         private void judge(Clauses law, int p, int v) {
-            boolean natural = v != ELIDED && (lawWords[1] == v || lawWords[1] == EITHER);
-            boolean able = v == ELIDED ? lawWords[4] == 1 && p + 1 < size : natural;
+            boolean natural = v != ELIDED && (lawWords[LAW_WEIGHT] == v || lawWords[LAW_WEIGHT] == EITHER);
+            boolean able = v == ELIDED ? lawWords[LAW_MEETS] == 1 && p + 1 < size : natural;
             boolean barred = false;
             int cost = natural ? 0 : 1;
             int clauses = law == null ? 0 : law.count;
