@@ -206,6 +206,7 @@ public final class ScansionDesk {
         orderWords[ORDER_DONE] = 0;
         orderWords[ORDER_LATEST] = NONE;
         Clauses text = clauseReader.text;
+        setOrderWords(text.asksScans);
         for (int clause = 0; clause < text.count && latestStop == NONE; clause++) {
             int times = text.told(clause, Clauses.TIMES);
             for (int turn = 0; turn < times && latestStop == NONE; turn++) {
@@ -582,7 +583,6 @@ public final class ScansionDesk {
 
     /** One turn of a CLAUSE of ORDERS; false if it can't be. */
     private boolean runOnce(Clauses text, int clause) {
-        setOrderWords(text.asksScans);
         int test = text.told(clause, Clauses.IF);
         if (test != NONE && reckoner.reckon(text.code, test, orderWords) != 1) {
             return true;
@@ -610,9 +610,11 @@ public final class ScansionDesk {
             return false;
         }
         orderWords[ORDER_DONE]++;
+        setOrderWords(text.asksScans);
         return true;
     }
 
+    /** What words tell of the line; it is asked anew only when something was run, as nothing else changes it. */
     private void setOrderWords(boolean withScans) {
         orderWords[ORDER_DAY] = now.termOf(DAY);
         orderWords[ORDER_COUNT] = now.size;
