@@ -143,8 +143,8 @@ public final class ScansionDesk {
         int came = 0;
         int silent = 0;
         for (int from = 0; from < tape.size; from += 3) {
-            boolean whole = from + 3 <= tape.size;
-            if (whole && now.addSyllable(tape.byteAt(from), tape.byteAt(from + 1), tape.byteAt(from + 2))) {
+            // behind the tape's end there is NONE, which makes no syllable
+            if (now.addSyllable(tape.byteAt(from), tape.byteAt(from + 1), tape.byteAt(from + 2))) {
                 came++;
             } else {
                 silent++;

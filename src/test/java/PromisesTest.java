@@ -164,7 +164,12 @@ public final class PromisesTest {
         metreFault("long]", 4);
         metreFault("[long]", 0);
         metreFault("longshort", 0);
+        metreFault("longz", 0);
+        metreFault("zlong", 0);
         metreFault("long2", 4);
+        metreFault(Texts.repeat(";", "", 400), 0);
+        metreFault(Texts.repeat(" ", "", 400), 400);
+        metreFault(Texts.repeat("(cut)", "", 80), NONE);
         metreFault("Long", 0);
         metreFault("long\tshort", 4);
         metreFault("long place", 5);
@@ -249,6 +254,8 @@ public final class PromisesTest {
         lawFault("bars if [[[[[[[[[1]]]]]]]]]=1", 16);
         lawFault("bars if (((((((([1]=1))))))))", 16);
         lawFault("bars if ((((((([1]=1)))))))", NONE);
+        lawFault("bars if ((((((((1=1))))))))", NONE);
+        lawFault("bars if (((((((((1=1)))))))))", 16);
         lawFault(Texts.repeat("bars", ";", 12), NONE);
         lawFault(Texts.repeat("bars", ";", 12) + ";", 60);
         lawFault(Texts.repeat("bars", ";", 12) + "; bars", 61);
@@ -299,6 +306,7 @@ public final class PromisesTest {
         due(3, "left of 0", costBy("1%[as-as]"), 7);
         due(3, "1,000,000,000", costBy("1000*1000*1000"), 99);
         due(3, "beyond it", costBy("1000*1000*1000+1"), 7);
+        due(3, "1,000,000,000 below 0", costBy("0-1000*1000*1000"), 0);
         due(3, "below it", costBy("0-1000*1000*1000-1"), 7);
         due(3, "beyond it on the way", costBy("1000*1000*1000*1000/1000/1000/1000/1000"), 7);
         due(3, "words", costBy("place*10+count"), 13);
@@ -456,14 +464,16 @@ public final class PromisesTest {
     }
 
     private static void restoresWhatCanBeUndone() {
-        ScansionDesk d = desk("000", "000");
-        d.weigh(0, 2);
+        ScansionDesk d = desk("000", "200");
+        d.weigh(1, 1);
         d.ends(1);
-        due(11, "seventeen and one that can't be", Texts.orders(d, "meet 0 times 17; end 9"), -3);
+        due(11, "twenty and one that can't be", Texts.orders(d, "meet 0 times 17; weigh 0 to done/17;pass times 2;end 9"), -3);
+        due(13, "stopped at the last", d.stopped(), 3);
         due(19, "still two", d.count(4), 2);
         due(19, "the ends", d.undo(), 1);
         due(19, "the weigh", d.undo(), 0);
-        due(19, "as it was", d.of(0, 0) + d.of(1, 1), 0);
+        due(19, "its weight", d.of(1, 0), 2);
+        due(19, "its end", d.of(1, 1), 0);
         due(19, "no more", d.undo(), -3);
     }
 
@@ -527,6 +537,19 @@ public final class PromisesTest {
         }
         due(19, "the weigh is too far back", d.undo(), -3);
         due(19, "it stands", d.of(0, 0), 1);
+        d = new ScansionDesk();
+        for (int k = 0; k < 20; k++) {
+            d.syllable(k % 3, 0, 0);
+        }
+        for (int k = 0; k < 20; k++) {
+            d.weigh(k, (k + 1) % 3);
+        }
+        for (int k = 19; k >= 4; k--) {
+            due(19, "one of the latest sixteen", d.undo(), 0);
+            due(19, "its weight", d.of(k, 0), k % 3);
+        }
+        due(19, "one of the first four", d.undo(), -3);
+        due(19, "it stands", d.of(3, 0), 1);
         leavesOrNot();
     }
 
@@ -867,7 +890,13 @@ public final class PromisesTest {
         due(36, "its law", d.compare(1, 1), 0);
         due(36, "its terms", d.count(12) * 100 + d.count(13) * 10 + d.count(14), 546);
         due(36, "its force", d.count(11), 0);
+        d.forget();
+        d.heard(0, 1);
+        due(36, "heard otherwise", d.canBe(), 0);
         due(36, "back again", d.back(0), 0);
+        due(36, "heard as it was", d.canBe(), 1);
+        d.heard(1, 0);
+        due(36, "heard more", d.canBe(), 0);
         notKept();
     }
 
