@@ -119,4 +119,32 @@ final class Desks {
         }
         return told.toString();
     }
+
+    /** The fault of a metre's text on a new desk; that metre() answers as it should is due, too. */
+    static int metreFault(String text) {
+        ScansionDesk desk = new ScansionDesk();
+        int answer = Texts.metre(desk, text);
+        Due.is("metre \"" + text + "\"", answer, desk.fault() == NONE ? 0 : -6);
+        Due.is("metres", desk.count(1), answer + 1 > 0 ? 1 : 0);
+        Due.is("the tape", desk.count(5), 0);
+        return desk.fault();
+    }
+
+    static int lawFault(String text) {
+        ScansionDesk desk = new ScansionDesk();
+        int answer = Texts.law(desk, text);
+        Due.is("law \"" + text + "\"", answer, desk.fault() == NONE ? 0 : -6);
+        Due.is("laws", desk.count(3), answer + 1 > 0 ? 1 : 0);
+        Due.is("the tape", desk.count(5), 0);
+        return desk.fault();
+    }
+
+    /** The fault of orders on a new desk: none of them can be refused by -6 then, all with one are. */
+    static int ordersFault(String text) {
+        ScansionDesk desk = new ScansionDesk();
+        int answer = Texts.orders(desk, text);
+        Due.is("orders \"" + text + "\"", answer == -6 ? 1 : 0, desk.fault() == NONE ? 0 : 1);
+        Due.is("the tape", desk.count(5), 0);
+        return desk.fault();
+    }
 }

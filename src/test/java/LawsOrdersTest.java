@@ -1,18 +1,16 @@
 /** Each sentence of the document's Terms II on LAWS and ORDERS that names a boundary case. */
 public final class LawsOrdersTest {
     private static final int NONE = ScansionDesk.NONE;
+    private static final String ALL_WORDS = "long short any cut or times costs allows bars if and not place weight as ends"
+        + " meets count day mood weigh to end meet pass done latest scans";
     private static final String BILLION = "1000*1000*1000";
 
     private static int lawFault(String law) {
-        ScansionDesk d = new ScansionDesk();
-        Texts.law(d, law);
-        return d.fault();
+        return Desks.lawFault(law);
     }
 
     private static int ordersFault(String orders) {
-        ScansionDesk d = new ScansionDesk();
-        Texts.orders(d, orders);
-        return d.fault();
+        return Desks.ordersFault(orders);
     }
 
     private static ScansionDesk byLaw(String law, String... syllables) {
@@ -80,7 +78,17 @@ public final class LawsOrdersTest {
         Due.is("not, the end", lawFault("bars if not"), 11);
         Due.is("a hundred times not", lawFault("bars if " + Texts.repeat("not", " ", 95) + " 1=1"), NONE);
 
+        for (String word : ALL_WORDS.split(" ")) {
+            boolean head = word.equals("costs") || word.equals("allows") || word.equals("bars");
+            Due.is(word + " ahead of a law", lawFault(word + " 1"), word.equals("costs") ? NONE : head ? word.length() + 1 : 0);
+        }
+
         Due.by("II", "ORDERS: CLAUSE: (\"weigh\" SUM \"to\" SUM | \"end\" SUM | \"meet\" SUM | \"pass\") [\"times\" TIMES] [\"if\" TEST]");
+        for (String word : ALL_WORDS.split(" ")) {
+            boolean one = word.equals("end") || word.equals("meet");
+            boolean head = one || word.equals("weigh") || word.equals("pass");
+            Due.is(word + " ahead of orders", ordersFault(word + " 1"), one ? NONE : word.equals("weigh") ? 7 : head ? 5 : 0);
+        }
         Due.is("weigh without to", ordersFault("weigh 0 1"), 8);
         Due.is("weigh to nothing", ordersFault("weigh 0 to if 1=1"), 11);
         Due.is("end to", ordersFault("end 0 to 1"), 6);
@@ -130,6 +138,9 @@ public final class LawsOrdersTest {
         Due.is("brackets are none", lawFault("costs " + Texts.repeat("[[1]]", "-", 50)), NONE);
         Due.is("51 in brackets", lawFault("costs " + Texts.repeat("[[1]]", "-", 51)), 6 + 50 * 6 + 2);
         Due.is("a 51st that is none", lawFault("costs " + Texts.repeat("1", "+", 50) + "+x"), 106);
+        Due.is("a 51st that is missing at the end", lawFault("costs " + Texts.repeat("1", "+", 50) + ";costs "), 112);
+        Due.is("a 51st that is missing ahead of if", lawFault("costs " + Texts.repeat("1", "+", 50) + ";costs if"), 112);
+        Due.is("a 51st that is missing in orders", ordersFault("end " + Texts.repeat("1", "+", 50) + ";end times 2"), 108);
         Due.is("of all clauses", lawFault("bars if 1=1;costs " + Texts.repeat("1", "+", 48)), NONE);
         Due.is("of all clauses, 51", lawFault("bars if 1=1;costs " + Texts.repeat("1", "+", 49)), 18 + 96);
         Due.is("the 51st in a test", lawFault("costs " + Texts.repeat("1", "+", 49) + " if 1=1"), 6 + 97 + 6);
@@ -151,7 +162,8 @@ public final class LawsOrdersTest {
         for (String word : new String[] {"place", "weight", "as", "ends", "meets", "count", "day", "mood"}) {
             Due.is("law: " + word, lawFault("costs " + word), NONE);
         }
-        for (String word : new String[] {"done", "latest", "scans", "costs", "if", "times", "long", "end", "meet", "slips"}) {
+        for (String word : new String[] {"done", "latest", "scans", "costs", "allows", "bars", "if", "times", "long",
+                "short", "any", "cut", "or", "and", "not", "weigh", "to", "end", "meet", "pass", "slips"}) {
             Due.is("law: " + word, lawFault("costs " + word), 6);
         }
         Due.is("law: weight has no S", lawFault("costs weight 0"), 13);
@@ -159,7 +171,8 @@ public final class LawsOrdersTest {
         for (String word : new String[] {"day", "done", "latest", "count", "weight 0", "scans 0"}) {
             Due.is("orders: " + word, ordersFault("end " + word), NONE);
         }
-        for (String word : new String[] {"place", "as", "ends", "meets", "mood", "end", "pass", "to", "slips"}) {
+        for (String word : new String[] {"place", "as", "ends", "meets", "mood", "long", "short", "any", "cut", "or", "and",
+                "not", "costs", "allows", "bars", "if", "times", "weigh", "to", "end", "meet", "pass", "slips"}) {
             Due.is("orders: " + word, ordersFault("end " + word), 4);
         }
     }
@@ -414,7 +427,7 @@ public final class LawsOrdersTest {
             "weigh 1/0 to 0", "weigh 0 to 1/0", "weigh 0 to 1%0", "weigh " + BILLION + "*2 to 1", "end 3", "end 0-1", "end 1/0",
             "end 1000*1000", "end 0-" + BILLION, "meet 3", "meet 0-1", "meet 1%0", "meet 20", "pass times 20"};
         for (String c : cant) {
-            ScansionDesk d = Desks.of("101", "011", "000");
+            ScansionDesk d = Desks.of("101", "111", "000");
             Texts.metre(d, "any any");
             Texts.law(d, "costs place");
             d.terms(0, 990);
@@ -435,7 +448,7 @@ public final class LawsOrdersTest {
             Due.is(c + ": no fault", d.fault(), NONE);
             Due.is(c + ": to undo", d.count(4), 2);
             Due.is(c + ": undone", Desks.undone(d), "10");
-            Due.is(c + ": as it was ahead of that", Desks.line(d), "101 011 000");
+            Due.is(c + ": as it was ahead of that", Desks.line(d), "101 111 000");
         }
         ScansionDesk e = Desks.of("000");
         e.terms(0, 998);
@@ -445,6 +458,23 @@ public final class LawsOrdersTest {
         Due.is("one that can't be and is not run", Texts.orders(e, "end 5 if count>5;weigh 0 to 9 times 20 if 1/0=0"), 0);
         Due.is("the second time", Texts.orders(e, "weigh 0 to 1 times 2"), -3);
         Due.is("as it was", Desks.line(e), "000");
+    }
+
+    /** What one text leaves must not stand in the way of a later one. */
+    private static void manyTexts() {
+        Due.by("II", "LAWS and ORDERS .. 50 PARTS that are NUMBERS and words (FAULT at the 51st) at most");
+        ScansionDesk d = Desks.of("000");
+        d.image(0);
+        String fifty = "weigh 0 to " + Texts.repeat("1", "*", 24) + "+done if " + Texts.repeat("1", "*", 20) + "=1 and 1=1";
+        for (int k = 0; k < 9; k++) {
+            Due.is("orders of 50 parts", Texts.orders(d, fifty), 1);
+            Due.is("orders of 51 parts", Texts.orders(d, fifty + " or 1=1"), -6);
+            Due.is("a law of 50 parts", Texts.law(d, "costs " + Texts.repeat("1", "+", 50)), 0);
+            Due.is("a law of 51 parts", Texts.law(d, "costs " + Texts.repeat("1", "+", 51)), -6);
+            d.force(0);
+            Due.is("of(0, 6)", d.of(0, 6), 50);
+            Due.is("back", d.back(0), 0);
+        }
     }
 
     public static void main(String[] args) {
@@ -460,6 +490,7 @@ public final class LawsOrdersTest {
         eachTime();
         wordsWithout();
         whollyOrNotAtAll();
+        manyTexts();
         Due.tell();
     }
 }

@@ -377,6 +377,19 @@ public final class PromiseEdgesTest {
         Due.is("without the day", Desks.undone(d), "0000000000000000");
         Due.is("the day stands", d.count(12), 1);
         Due.is("the line is as it was", Desks.line(d), "000 000 000");
+        for (int k = 0; k < 20; k++) {
+            d.weigh(k % 3, (k / 3 + 1) % 3);
+        }
+        for (int k = 19; k >= 4; k--) {
+            d.undo();
+            Due.is("what the weight of " + k % 3 + " was", d.of(k % 3, 0), k / 3 % 3);
+        }
+        Due.is("no more", d.undo(), -3);
+        Due.is("four stand", Desks.line(d), "200 100 100");
+        d.weigh(0, 0);
+        d.weigh(1, 0);
+        d.weigh(2, 0);
+        d.terms(0, 1);
         Texts.orders(d, "weigh 0 to 1;end 0;meet 0;pass;end 1 times 13");
         Due.is("16 of 17 by orders", Desks.undone(d), "1111111111111321");
         Due.is("the first stands", Desks.line(d), "100 000 000");

@@ -6,6 +6,13 @@ public final class ReadingsTest {
     private static int takes(String metre, String... syllables) {
         ScansionDesk d = Desks.of(syllables);
         Due.is("metre \"" + metre + "\"", Texts.metre(d, metre), 0);
+        boolean fits = d.fits() == 1;
+        Due.is("it has a best reading", d.best(0, NONE) >= 0 ? 1 : 0, fits ? 1 : 0);
+        Due.is("it has elisions", d.elisions(0) >= 0 ? 1 : 0, fits ? 1 : 0);
+        Due.is("nothing is to be mended", d.mend(0) == 0 ? 1 : 0, fits ? 1 : 0);
+        Due.is("it reaches all", !fits || d.reach(0) == syllables.length ? 1 : 0, 1);
+        Due.is("it can be", d.canBe(), d.fits());
+        Due.is("on its day", d.pass(), d.fits());
         return d.fits();
     }
 
@@ -28,6 +35,8 @@ public final class ReadingsTest {
         Due.is("an empty line, a step", takes("long"), 0);
         Due.is("an empty line, a cut", takes("cut"), 1);
         Due.is("an empty line, a choice of a cut", takes("long or cut times 9"), 1);
+        Due.is("a choice behind the line's end", takes("long (long or short)", "100"), 0);
+        Due.is("a choice behind the line's end that can be nothing", takes("long (long or cut or short)", "110"), 1);
         Due.is("20 syllables", takes("long times 9 long times 9 long times 2", Texts.repeat("100", " ", 20).split(" ")), 1);
         Due.is("20 syllables, 19 steps", takes("long times 9 long times 9 long", Texts.repeat("100", " ", 20).split(" ")), 0);
         Due.is("20 syllables, 21 steps", takes("long times 9 long times 9 long times 3", Texts.repeat("100", " ", 20).split(" ")), 0);
@@ -156,6 +165,7 @@ public final class ReadingsTest {
         Due.is("an empty line", with("cut").mend(0), 0);
         Due.is("an empty line, not by any", with("any").mend(0), NONE);
         Due.is("20", with("long times 9 long times 9 long long", Texts.repeat("000", " ", 20).split(" ")).mend(0), 20);
+        Due.is("a cut, and one", with("long cut long", "010", "100").mend(0), 1);
         Due.is("whatever it costs", byLaw("costs 99 if as=1", "any", "200").mend(0), 0);
     }
 

@@ -141,21 +141,15 @@ public final class TermsTest {
     }
 
     private static int faultOf(String metre) {
-        ScansionDesk d = new ScansionDesk();
-        Texts.metre(d, metre);
-        return d.fault();
+        return Desks.metreFault(metre);
     }
 
     private static int lawFault(String law) {
-        ScansionDesk d = new ScansionDesk();
-        Texts.law(d, law);
-        return d.fault();
+        return Desks.lawFault(law);
     }
 
     private static int ordersFault(String orders) {
-        ScansionDesk d = new ScansionDesk();
-        Texts.orders(d, orders);
-        return d.fault();
+        return Desks.ordersFault(orders);
     }
 
     private static void tokens() {
@@ -214,6 +208,7 @@ public final class TermsTest {
     private static void eightBrackets() {
         Due.by("II", "In all languages 8 brackets of both kinds within one another (FAULT at the 9th) at most");
         Due.is("8 in a metre", faultOf(nested("(", ")", 8, "any")), NONE);
+        Due.is("steps in 8 brackets", stepsOf(nested("(", ")", 7, "any or (cut any)times 2")), 5);
         Due.is("9 in a metre", faultOf(nested("(", ")", 9, "any")), 8);
         Due.is("8, and 8 behind them", faultOf(nested("(", ")", 8, "any") + nested("(", ")", 8, "any")), NONE);
         Due.is("8, and 9 behind them", faultOf(nested("(", ")", 8, "any") + nested("(", ")", 9, "any")), 19 + 8);
@@ -295,6 +290,11 @@ public final class TermsTest {
         Due.is("200", stepsOf("((any times 5)times 5)times 8"), 200);
         Due.is("200 in choices", stepsOf("((any or cut times 4)times 5)times 4 or (short times 5)times 5"
             + " or (long times 5)times 9 or any times 9 any times 9 any times 9 any times 3"), 200);
+        String choices = "(" + Texts.repeat("cut", " or ", 50) + ")times 4";
+        Due.is("200 in 50 choices, four times", stepsOf(choices), 200);
+        ScansionDesk empty = new ScansionDesk();
+        Texts.metre(empty, choices);
+        Due.is("they take an empty line", Desks.best(empty, 0) + " " + empty.fits(), "0: 1");
         Due.is("201", faultOf("((any times 5)times 5)times 8 cut"), 33);
         Due.is("201 in choices", faultOf("cut or ((any times 5)times 5)times 8"), 36);
         Due.is("201, blanks behind", faultOf("((any times 5)times 5)times 8 cut   "), 36);
@@ -435,10 +435,12 @@ public final class TermsTest {
 
     private static void images() {
         Due.by("IV", "IMAGES 0, 1 keep all but the TAPE, FAULT, MUTES, where ORDERS stopped, what can be undone (nothing, behind back()), the latest WEEKS");
-        ScansionDesk d = Desks.of("201", "110", "200");
-        Texts.metre(d, "any any any");
+        ScansionDesk d = Desks.of("201", "210", "200");
+        for (String m : new String[] {"short any any", "any short any", "any any short", "any any"}) {
+            Texts.metre(d, m);
+        }
         Texts.law(d, "costs place");
-        d.heard(0, 0);
+        d.heard(0, 1);
         d.force(0);
         d.terms(0, 17);
         d.terms(1, 3);
@@ -481,18 +483,61 @@ public final class TermsTest {
         Texts.metre(d, "cut");
         Due.is("to 0 again", d.back(0), 0);
         Due.is("to 0 again", Desks.kept(d), first);
-        d.weigh(1, 2);
+        d.weigh(1, 0);
         d.forget();
-        d.heard(2, 0);
+        d.heard(2, 1);
+        Due.is("heard otherwise", d.canBe(), 0b1011);
         Texts.metre(d, "short");
         Texts.law(d, "bars");
         Due.is("to 0 once more", d.back(0), 0);
         Due.is("to 0 once more", Desks.kept(d), first);
+        Due.is("heard as it was", d.canBe(), 0b0110);
+        d.forget();
+        d.heard(0, 0);
+        Due.is("heard as what it was not", d.canBe(), 0b0111);
+        d.back(0);
+        Due.is("heard as what it was", d.canBe(), 0b0110);
         Due.is("to 1 again", d.back(1), 0);
         Due.is("to 1 again", Desks.kept(d), second);
         d.image(0);
         Due.is("0 was kept anew", d.back(0), 0);
         Due.is("0 was kept anew", Desks.kept(d), second);
+    }
+
+    /** Twenty syllables, no two neighbours alike. */
+    private static ScansionDesk varied() {
+        ScansionDesk d = new ScansionDesk();
+        for (int k = 0; k < 20; k++) {
+            d.syllable((k + 1) % 3, k % 2, k / 2 % 2);
+        }
+        return d;
+    }
+
+    private static void fullLines() {
+        Due.by("IV", "BACK to one all that it keeps is as it was then");
+        ScansionDesk d = varied();
+        String line = Desks.line(d);
+        d.image(1);
+        for (int k = 0; k < 20; k++) {
+            d.weigh(k, k % 3);
+            d.ends(k);
+            d.meets(k);
+        }
+        Due.is("back to 20 syllables", d.back(1), 0);
+        Due.is("back to 20 syllables", Desks.line(d), line);
+
+        Due.by("IV", "WEEKS with a SEED, n 1 .. 60, on paper");
+        d.terms(0, 999);
+        d.weeks(5, 1);
+        Due.is("20 syllables, no days", Desks.drawn(d, 20), line);
+        d.terms(0, 0);
+        d.weeks(5, 60);
+        Due.is("20 syllables, as they stand", Desks.line(d), line);
+
+        Due.by("II", "all is as it was ahead of it");
+        ScansionDesk e = varied();
+        Due.is("20 syllables, orders that can't be", Texts.orders(e, "weigh 19 to 0;weigh 8 to 1;end 13;meet 19;end 20"), -3);
+        Due.is("20 syllables", Desks.line(e), line);
     }
 
     private static void calls512() {
@@ -523,6 +568,7 @@ public final class TermsTest {
         weekDays();
         rows();
         images();
+        fullLines();
         calls512();
         Due.tell();
     }
