@@ -1002,9 +1002,9 @@ public final class ScansionDesk {
         static final int CUT_STEP = 4;
         static final int FORK = 5;
 
-        final int[] kinds;
-        final int[] nexts;
-        final int[] others;
+        private final int[] kinds;
+        private final int[] nexts;
+        private final int[] others;
         final int steps;
         final int shortest;
         final int longest;
@@ -1016,6 +1016,23 @@ public final class ScansionDesk {
             this.steps = steps;
             this.shortest = shortest;
             this.longest = longest;
+        }
+
+        /** The node at which it begins. */
+        int start() {
+            return kinds.length - 1;
+        }
+
+        int kindAt(int node) {
+            return node >= 0 && node < kinds.length ? kinds[node] : FINISH;
+        }
+
+        int nextAt(int node) {
+            return node >= 0 && node < nexts.length ? nexts[node] : NONE;
+        }
+
+        int otherAt(int node) {
+            return node >= 0 && node < others.length ? others[node] : NONE;
         }
     }
 
@@ -1670,14 +1687,14 @@ public final class ScansionDesk {
         private void flowThrough(Metre metre) {
             Arrays.fill(flow, 0);
             reached = 0;
-            int start = metre.kinds.length - 1;
+            int start = metre.start();
             spread(start, 1);
             for (int node = start; node >= 0 && node < flow.length; node--) {
                 int places = withElided(flow[node]);
                 flow[node] = places;
                 reached |= places;
-                int next = node < metre.nexts.length ? metre.nexts[node] : NONE;
-                switch (metre.kinds[node]) {
+                int next = metre.nextAt(node);
+                switch (metre.kindAt(node)) {
                     case Metre.LONG_STEP:
                         spread(next, (places & can[1]) << 1);
                         break;
@@ -1692,7 +1709,7 @@ public final class ScansionDesk {
                         break;
                     case Metre.FORK:
                         spread(next, places);
-                        spread(node < metre.others.length ? metre.others[node] : NONE, places);
+                        spread(metre.otherAt(node), places);
                         break;
                     default:
                         break;
@@ -1722,19 +1739,17 @@ public final class ScansionDesk {
                 long[] rest = ahead;
                 ahead = here;
                 here = rest;
-                for (int node = 0; node < metre.kinds.length && node < here.length; node++) {
+                for (int node = 0; node <= metre.start() && node < here.length; node++) {
                     here[node] = leastFrom(metre, node, p);
                 }
             }
-            int start = metre.kinds.length - 1;
-            return start >= 0 && start < here.length ? here[start] : FAR;
+            return leastIn(here, metre.start());
         }
 
         private long leastFrom(Metre metre, int node, int p) {
-            int next = node < metre.nexts.length ? metre.nexts[node] : NONE;
-            int other = node < metre.others.length ? metre.others[node] : NONE;
+            int next = metre.nextAt(node);
             long least = p < size ? priceOf(p, ELIDED) + leastIn(ahead, node) : FAR;
-            switch (metre.kinds[node]) {
+            switch (metre.kindAt(node)) {
                 case Metre.LONG_STEP:
                     least = Math.min(least, priceOf(p, 1) + leastIn(ahead, next));
                     break;
@@ -1748,7 +1763,7 @@ public final class ScansionDesk {
                     least = (cuts >> p & 1) == 1 ? Math.min(least, leastIn(here, next)) : least;
                     break;
                 case Metre.FORK:
-                    least = Math.min(leastIn(here, next), leastIn(here, other));
+                    least = Math.min(leastIn(here, next), leastIn(here, metre.otherAt(node)));
                     break;
                 default:
                     least = p == size ? 0 : least;

